@@ -459,7 +459,7 @@ public final class OneVoice {
 
     /**
      * Says a row of sounds with the least jar. It goes from the row's end to its begin: what is left costs only
-     * by the tone that was heard last, so each place of the row needs no more than one sum for each tone.
+     * by the tone that was heard last, so each place of the row needs no more than one sum for each tone in use.
      */
     private static final class Sayer {
         final Stock stock;
@@ -467,6 +467,10 @@ public final class OneVoice {
         int rowSize;
         int voice;
         int cutCost = 5;
+        /** The tones that pieces of the voice have, from the lowest on: no other is ever heard. */
+        final int[] used = new int[TONES];
+        int usedSize;
+        final int[] marks = new int[TONES];
         /** By place and tone: least jar of the row from that place on, behind a bit that ended with that tone. */
         final int[] rest = new int[(MOST_ROW + 1) * TONES];
         final int[] restWays = new int[(MOST_ROW + 1) * TONES];
@@ -509,15 +513,18 @@ public final class OneVoice {
             for (int i = 0; i < n && i < MOST_ROW; i++) {
                 row[i] = (int) (sounds >>> (4 * i)) & 15;
             }
+            gatherTones();
             Arrays.fill(inside, FAR);
             Arrays.fill(insideWays, 0);
-            for (int tone = 0; tone < TONES; tone++) {
-                rest[n * TONES + tone] = 0;
-                restWays[n * TONES + tone] = 1;
+            for (int i = 0; i < usedSize; i++) {
+                rest[n * TONES + used[i]] = 0;
+                restWays[n * TONES + used[i]] = 1;
             }
             for (int at = n - 1; at >= 0; at--) {
-                Arrays.fill(begun, FAR);
-                Arrays.fill(begunWays, 0);
+                for (int i = 0; i < usedSize; i++) {
+                    begun[used[i]] = FAR;
+                    begunWays[used[i]] = 0;
+                }
                 for (int i = 0; i < stock.size; i++) {
                     if (stock.pieces[i].voice == voice) {
                         weighPiece(i, at);
@@ -529,6 +536,23 @@ public final class OneVoice {
                 }
             }
             sumUp();
+        }
+
+        private void gatherTones() {
+            Arrays.fill(marks, 0);
+            for (int i = 0; i < stock.size; i++) {
+                Piece piece = stock.pieces[i];
+                for (int place = 0; place < piece.size && piece.voice == voice; place++) {
+                    marks[piece.tones[place]] = 1;
+                }
+            }
+            usedSize = 0;
+            for (int tone = 0; tone < TONES; tone++) {
+                if (marks[tone] == 1) {
+                    used[usedSize] = tone;
+                    usedSize++;
+                }
+            }
         }
 
         /** Goes upwards in the piece: the next place's sum is still that of the row's next place. */
@@ -553,28 +577,33 @@ public final class OneVoice {
 
         /** Bits that begin with the last bit's tone or a lower one. */
         private void carryUp(int base) {
-            for (int tone = 0; tone < TONES; tone++) {
+            for (int i = 0; i < usedSize; i++) {
+                int tone = used[i];
                 rest[base + tone] = begun[tone];
                 restWays[base + tone] = begunWays[tone];
-                if (tone > 0) {
-                    offer(rest, restWays, base + tone, rest[base + tone - 1] + 1, restWays[base + tone - 1]);
+                if (i > 0) {
+                    int lower = used[i - 1];
+                    offer(rest, restWays, base + tone, rest[base + lower] + tone - lower, restWays[base + lower]);
                 }
             }
         }
 
         /** Bits that begin with a higher tone: begun gathers them, so that none is taken twice. */
         private void carryDown(int base) {
-            for (int tone = TONES - 2; tone >= 0; tone--) {
-                int jar = begun[tone + 1] + 1;
-                offer(rest, restWays, base + tone, jar, begunWays[tone + 1]);
-                offer(begun, begunWays, tone, jar, begunWays[tone + 1]);
+            for (int i = usedSize - 2; i >= 0; i--) {
+                int tone = used[i];
+                int higher = used[i + 1];
+                int jar = begun[higher] + higher - tone;
+                offer(rest, restWays, base + tone, jar, begunWays[higher]);
+                offer(begun, begunWays, tone, jar, begunWays[higher]);
             }
         }
 
         private void sumUp() {
             least = FAR;
             ways = 0;
-            for (int tone = 0; tone < TONES; tone++) {
+            for (int i = 0; i < usedSize; i++) {
+                int tone = used[i];
                 if (begun[tone] < least) {
                     least = begun[tone];
                     ways = begunWays[tone];
