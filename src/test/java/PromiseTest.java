@@ -690,6 +690,16 @@ public final class PromiseTest {
         y.run(2);
         due("danger grew stale", y.heard(1, 0), 4);
         due("but cut off all the same", y.heard(0, 0), 3);
+        OneVoice w = platforms(";near 0 1;near 1 2");
+        w.call(1, 1, 0, 1, 90, true);
+        w.call(0, 0, 0, 0, 90, false);
+        w.call(2, 1, 0, 1, 90, false);
+        w.run(2);
+        due("danger at 1 waits for 0", w.heard(0, 0), 0);
+        due("so 2 waits too, though it does not hear 0", w.heard(2, 0), 0);
+        w.run(4);
+        due("danger behind the word", w.heard(0, 2), 3);
+        due("2 behind danger", w.heard(2, 2), 5);
         OneVoice z = platforms(";near 0 1;near 1 2");
         z.call(0, 0, 0, 0, 90, true);
         z.call(1, 0, 0, 0, 90, true);
@@ -865,6 +875,11 @@ public final class PromiseTest {
         OneVoice z = new OneVoice();
         tell(z, "word 28 is aa;word 0 is a;line 1 is 0;line 2 is 0 0");
         due("a sound beside itself", z.record(), 4);
+        OneVoice v = new OneVoice();
+        tell(v, "word 28 is ap;word 0 is aba;word 1 is p;line 0 is 0;line 1 is 1");
+        due("b a is another step than a p", v.record(), NONE);
+        tell(v, "line 2 is 0 1");
+        due("a p in one line", v.record(), 4);
     }
 
     private static void crowd() {
