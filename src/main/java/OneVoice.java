@@ -48,12 +48,15 @@ public final class OneVoice {
     private final Loudness loudness;
 
     public OneVoice() {
-        stock = new Stock();
-        sayer = new Sayer(stock);
-        lexicon = new Lexicon();
+        Stock pieces = new Stock();
+        Sayer mouth = new Sayer(pieces);
+        Lexicon words = new Lexicon();
+        stock = pieces;
+        sayer = mouth;
+        lexicon = words;
         text = new Text();
-        station = new Station(lexicon, sayer);
-        recorder = new Recorder(lexicon);
+        station = new Station(words, mouth);
+        recorder = new Recorder(words);
         loudness = new Loudness();
     }
 
