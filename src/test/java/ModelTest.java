@@ -10,7 +10,7 @@ import java.util.regex.Matcher;
 import java.util.regex.Pattern;
 
 /** Many runs of calls, on the class and on a plain reading of the document beside it; each answer is compared. */
-public final class ModelTest {
+public final class ModelTest extends Check {
     private static final int RUNS = 1500;
     private static int wrong = 0;
 
@@ -267,7 +267,7 @@ public final class ModelTest {
         }
         told.append(')');
         long want = model.ask(name, a);
-        long got = ask(name, a);
+        long got = ask(voice, name, a);
         history.append(told).append(" -> ").append(got).append('\n');
         boolean apart = want < 0 || name.equals("record") || name.equals("heard") && a[1] == 0;
         answers.merge(name + (apart ? " " + want : ""), 1, Integer::sum);
@@ -277,36 +277,6 @@ public final class ModelTest {
             System.out.println(told + " answered " + got + ", due is " + want);
         }
         return 1;
-    }
-
-    private int ask(String name, long[] a) {
-        return switch (name) {
-            case "piece" -> voice.piece((int) a[0], (int) a[1], (int) a[2], (int) a[3], (int) a[4]);
-            case "worn" -> voice.worn((int) a[0], (int) a[1]);
-            case "of" -> voice.of((int) a[0], (int) a[1], (int) a[2]);
-            case "lost" -> voice.lost();
-            case "said" -> voice.said((int) a[0], a[1], (int) a[2], (int) a[3]);
-            case "bit" -> voice.bit((int) a[0], a[1], (int) a[2], (int) a[3]);
-            case "write" -> voice.write(a[0], (int) a[1]);
-            case "erase" -> voice.erase();
-            case "fault" -> voice.fault();
-            case "told" -> voice.told();
-            case "word" -> voice.word((int) a[0], (int) a[1]);
-            case "line" -> voice.line((int) a[0], (int) a[1], (int) a[2]);
-            case "jar" -> voice.jar((int) a[0], (int) a[1], (int) a[2]);
-            case "call" -> voice.call((int) a[0], (int) a[1], (int) a[2], (int) a[3], (int) a[4], a[5] == 1);
-            case "run" -> voice.run((int) a[0]);
-            case "heard" -> voice.heard((int) a[0], (int) a[1]);
-            case "speaks" -> voice.speaks((int) a[0]);
-            case "voice" -> voice.voice((int) a[0], (int) a[1]);
-            case "wish" -> voice.wish((int) a[0], (int) a[1], (int) a[2]);
-            case "change" -> voice.change((int) a[0]);
-            case "record" -> voice.record();
-            case "crowd" -> voice.crowd((int) a[0], (int) a[1]);
-            case "understood" -> voice.understood((int) a[0], (int) a[1]);
-            case "power" -> voice.power((int) a[0], (int) a[1]);
-            default -> voice.count((int) a[0]);
-        };
     }
 
     private record ModelPiece(List<Integer> sounds, int begin, int end, int voice, Set<Integer> worn) {

@@ -1,21 +1,5 @@
 /** Each promise by itself: ordinary inputs, the edges that the document names, and wrong inputs. */
-public final class PromiseTest {
-    private static int wrong = 0;
-    private static String promise = "";
-
-    private static void due(String call, long got, long want) {
-        if (got != want) {
-            wrong++;
-            System.out.println(promise + ": " + call + " answered " + got + ", due is " + want);
-        }
-    }
-
-    private static final int NONE = OneVoice.NONE;
-    private static final int UNKNOWN = OneVoice.UNKNOWN;
-    private static final int OUTSIDE = OneVoice.OUTSIDE;
-    private static final int NOT = OneVoice.NOT;
-    private static final int FULL = OneVoice.FULL;
-
+public final class PromiseTest extends Check {
     public static void main(String[] args) {
         newObject();
         piece();
@@ -49,36 +33,7 @@ public final class PromiseTest {
         understood();
         power();
         count();
-        System.out.println(wrong == 0 ? "all promises hold" : wrong + " answers are not as due");
-        if (wrong != 0) {
-            System.exit(1);
-        }
-    }
-
-    private static void put(OneVoice x, String text) {
-        for (int i = 0; i < text.length(); i += 8) {
-            int n = Math.min(8, text.length() - i);
-            long bytes = 0;
-            for (int j = 0; j < n; j++) {
-                bytes |= (long) (text.charAt(i + j) & 255) << (8 * j);
-            }
-            x.write(bytes, n);
-        }
-    }
-
-    private static int faultOf(String text) {
-        OneVoice x = new OneVoice();
-        put(x, text);
-        return x.fault();
-    }
-
-    private static void faultAt(String text, int place) {
-        due("fault() of \"" + text + "\"", faultOf(text), place);
-    }
-
-    private static int tell(OneVoice x, String text) {
-        put(x, text);
-        return x.told();
+        end();
     }
 
     /** Sounds 0 .. 2 by voice 0, words of known lengths, and lines of them. */
@@ -93,7 +48,7 @@ public final class PromiseTest {
     }
 
     private static void newObject() {
-        promise = "1 a new object";
+        about("1 a new object");
         OneVoice x = new OneVoice();
         int[] first = {0, 0, 0, 0, 5, 0, 0};
         for (int i = 0; i < first.length; i++) {
@@ -119,7 +74,7 @@ public final class PromiseTest {
     }
 
     private static void piece() {
-        promise = "2 piece";
+        about("2 piece");
         OneVoice x = new OneVoice();
         due("n 0", x.piece(0, 0, 0, 0, 0), OUTSIDE);
         due("n 9", x.piece(0, 9, 0, 0, 0), OUTSIDE);
@@ -143,7 +98,7 @@ public final class PromiseTest {
     }
 
     private static void worn() {
-        promise = "3 worn";
+        about("3 worn");
         OneVoice x = new OneVoice();
         due("no piece", x.worn(0, 0), UNKNOWN);
         due("no piece, bits of no places", x.worn(0, -1), UNKNOWN);
@@ -164,7 +119,7 @@ public final class PromiseTest {
     }
 
     private static void of() {
-        promise = "4 of";
+        about("4 of");
         OneVoice x = new OneVoice();
         due("no piece", x.of(0, 0, 0), UNKNOWN);
         x.piece(0xF3, 2, 10, 99, 0);
@@ -198,7 +153,7 @@ public final class PromiseTest {
     }
 
     private static void lost() {
-        promise = "5 lost";
+        about("5 lost");
         OneVoice x = new OneVoice();
         x.piece(0x10, 2, 0, 0, 0);
         x.piece(0x10, 2, 0, 0, 1);
@@ -217,7 +172,7 @@ public final class PromiseTest {
     }
 
     private static void said() {
-        promise = "6 said";
+        about("6 said");
         OneVoice x = new OneVoice();
         due("voice -1", x.said(-1, 0, 1, 0), OUTSIDE);
         due("voice 4", x.said(4, 0, 1, 0), OUTSIDE);
@@ -258,7 +213,7 @@ public final class PromiseTest {
     }
 
     private static void saidWays() {
-        promise = "6 said, ways";
+        about("6 said, ways");
         OneVoice x = new OneVoice();
         for (int i = 0; i < 16; i++) {
             x.piece(0, 1, 7, 7, 0);
@@ -296,7 +251,7 @@ public final class PromiseTest {
     }
 
     private static void bit() {
-        promise = "7 bit";
+        about("7 bit");
         OneVoice x = new OneVoice();
         due("voice 4", x.bit(4, 0, 1, 0), OUTSIDE);
         due("voice -1", x.bit(-1, 0, 1, 0), OUTSIDE);
@@ -331,7 +286,7 @@ public final class PromiseTest {
     }
 
     private static void write() {
-        promise = "8 write";
+        about("8 write");
         OneVoice x = new OneVoice();
         due("n 0", x.write(0, 0), OUTSIDE);
         due("n 9", x.write(0, 9), OUTSIDE);
@@ -353,7 +308,7 @@ public final class PromiseTest {
     }
 
     private static void erase() {
-        promise = "9 erase";
+        about("9 erase");
         OneVoice x = new OneVoice();
         due("empty", x.erase(), 0);
         put(x, "cut 12");
@@ -366,7 +321,7 @@ public final class PromiseTest {
     }
 
     private static void fault() {
-        promise = "10 fault";
+        about("10 fault");
         faultAt("", 0);
         faultAt("   ", 3);
         faultAt("cut 5", NONE);
@@ -404,7 +359,7 @@ public final class PromiseTest {
     }
 
     private static void faultOfTokens() {
-        promise = "10 fault";
+        about("10 fault");
         faultAt("cut 100", 4);
         faultAt("cut 007", 4);
         faultAt("cut a", 4);
@@ -453,7 +408,7 @@ public final class PromiseTest {
     }
 
     private static void told() {
-        promise = "11 told";
+        about("11 told");
         OneVoice x = new OneVoice();
         due("an empty text", x.told(), NOT);
         due("a fault in the second row", tell(x, "cut 7;cut"), NOT);
@@ -474,7 +429,7 @@ public final class PromiseTest {
     }
 
     private static void word() {
-        promise = "12 word";
+        about("12 word");
         OneVoice x = new OneVoice();
         tell(x, "word 0 is p;word 31 is abcdefgh");
         due("word(-1, 0)", x.word(-1, 0), UNKNOWN);
@@ -493,7 +448,7 @@ public final class PromiseTest {
     }
 
     private static void line() {
-        promise = "13 line";
+        about("13 line");
         OneVoice x = new OneVoice();
         tell(x, "word 0 is abc;word 9 is d;word 19 is ee;word 20 is fff;word 27 is gggg;line 0 is 0;line 7 is # 0 #");
         due("line(-1, 0, 0)", x.line(-1, 0, 0), UNKNOWN);
@@ -525,7 +480,7 @@ public final class PromiseTest {
     }
 
     private static void jar() {
-        promise = "14 jar";
+        about("14 jar");
         OneVoice x = new OneVoice();
         x.piece(0x210, 3, 10, 30, 1);
         x.piece(0x3, 1, 99, 99, 1);
@@ -548,7 +503,7 @@ public final class PromiseTest {
     }
 
     private static void call() {
-        promise = "15 call";
+        about("15 call");
         OneVoice x = platforms("");
         due("platform -1", x.call(-1, 0, 0, 0, 1, false), UNKNOWN);
         due("platform 6", x.call(6, 0, 0, 0, 1, false), UNKNOWN);
@@ -576,7 +531,7 @@ public final class PromiseTest {
     }
 
     private static void run() {
-        promise = "16 run";
+        about("16 run");
         OneVoice x = platforms("");
         due("run(0)", x.run(0), OUTSIDE);
         due("run(-1)", x.run(-1), OUTSIDE);
@@ -596,7 +551,7 @@ public final class PromiseTest {
     }
 
     private static void heard() {
-        promise = "17 heard";
+        about("17 heard");
         OneVoice x = platforms(";near 0 1");
         due("no call", x.heard(0, 0), UNKNOWN);
         x.call(0, 0, 0, 2, 9, false);
@@ -629,7 +584,7 @@ public final class PromiseTest {
     }
 
     private static void danger() {
-        promise = "17 heard, danger";
+        about("17 heard, danger");
         OneVoice x = platforms("");
         x.call(0, 0, 0, 0, 90, false);
         x.call(0, 0, 0, 1, 90, true);
@@ -667,7 +622,7 @@ public final class PromiseTest {
     }
 
     private static void dangerAmongHearers() {
-        promise = "17 heard, danger among platforms";
+        about("17 heard, danger among platforms");
         OneVoice x = platforms(";near 0 1;near 1 2");
         x.call(0, 0, 0, 0, 90, false);
         x.call(2, 0, 0, 0, 90, false);
@@ -721,7 +676,7 @@ public final class PromiseTest {
     }
 
     private static void muteAndStale() {
-        promise = "17 heard, mute and stale";
+        about("17 heard, mute and stale");
         OneVoice x = platforms(";line 3 is #");
         x.call(0, 2, 0, 0, 90, false);
         x.call(0, 3, 9, 0, 90, true);
@@ -756,7 +711,7 @@ public final class PromiseTest {
     }
 
     private static void tellingAnew() {
-        promise = "17 heard, texts told anew";
+        about("17 heard, texts told anew");
         OneVoice x = platforms("");
         x.call(0, 0, 0, 0, 90, false);
         x.call(0, 0, 0, 0, 90, false);
@@ -780,7 +735,7 @@ public final class PromiseTest {
     }
 
     private static void speaks() {
-        promise = "18 speaks";
+        about("18 speaks");
         OneVoice x = platforms(";near 0 1");
         due("speaks(-1)", x.speaks(-1), UNKNOWN);
         due("speaks(6)", x.speaks(6), UNKNOWN);
@@ -798,7 +753,7 @@ public final class PromiseTest {
     }
 
     private static void voice() {
-        promise = "19 voice";
+        about("19 voice");
         OneVoice x = new OneVoice();
         due("voice(-1, 0)", x.voice(-1, 0), UNKNOWN);
         due("voice(6, 2)", x.voice(6, 2), UNKNOWN);
@@ -812,7 +767,7 @@ public final class PromiseTest {
     }
 
     private static void wish() {
-        promise = "20 wish";
+        about("20 wish");
         OneVoice x = new OneVoice();
         due("platform 6", x.wish(6, 4, 0), UNKNOWN);
         due("platform -1", x.wish(-1, 0, 1), UNKNOWN);
@@ -829,7 +784,7 @@ public final class PromiseTest {
     }
 
     private static void change() {
-        promise = "21 change";
+        about("21 change");
         OneVoice x = new OneVoice();
         due("voice 4", x.change(4), OUTSIDE);
         due("voice -1", x.change(-1), OUTSIDE);
@@ -849,7 +804,7 @@ public final class PromiseTest {
     }
 
     private static void record() {
-        promise = "22 record";
+        about("22 record");
         OneVoice x = new OneVoice();
         tell(x, "word 27 is p;line 0 is 27");
         due("no names: no lines", x.record(), 0);
@@ -883,7 +838,7 @@ public final class PromiseTest {
     }
 
     private static void crowd() {
-        promise = "23 crowd";
+        about("23 crowd");
         OneVoice x = new OneVoice();
         due("spot -1", x.crowd(-1, 0), UNKNOWN);
         due("spot 16", x.crowd(16, 100), UNKNOWN);
@@ -896,7 +851,7 @@ public final class PromiseTest {
     }
 
     private static void understood() {
-        promise = "24 understood";
+        about("24 understood");
         OneVoice x = new OneVoice();
         due("spot -1", x.understood(-1, 0), UNKNOWN);
         due("spot 16", x.understood(16, 1000), UNKNOWN);
@@ -916,7 +871,7 @@ public final class PromiseTest {
     }
 
     private static void power() {
-        promise = "25 power";
+        about("25 power");
         OneVoice x = new OneVoice();
         due("spot -2", x.power(-2, 0), UNKNOWN);
         due("spot 16", x.power(16, -1), UNKNOWN);
@@ -937,7 +892,7 @@ public final class PromiseTest {
     }
 
     private static void count() {
-        promise = "26 count";
+        about("26 count");
         OneVoice x = new OneVoice();
         due("count(-1)", x.count(-1), OUTSIDE);
         due("count(7)", x.count(7), OUTSIDE);
