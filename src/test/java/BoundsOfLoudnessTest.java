@@ -104,6 +104,9 @@ public final class BoundsOfLoudnessTest extends Check {
         recordOf("word 28 is a;line 0 is 28 28 28 28 28 28 28 0", NONE);
         recordOf("word 28 is a;line 0 is 28 28 28 28 28 28 28 28", 1);
         recordOf("word 28 is a;line 0 is 28 1;line 1 is 28 #;line 2 is 28", 4);
+        recordOf("word 28 is a;line 0 is 28 #;line 0 is 28", 1);
+        recordOf("word 28 is a;line 0 is 28 28 28 28 28 28 28 28;line 1 is #", 1);
+        recordOf("word 28 is a;line 7 is 28 28 28 28 28 28 28 28", 128);
     }
 
     private static void linesUpToTheLast() {
@@ -149,6 +152,16 @@ public final class BoundsOfLoudnessTest extends Check {
         due("told()", tell(x, "word 0 is b"), 1);
         due("now it can", x.record(), 1);
         due("nothing was changed by asking", x.record(), 1);
+        due("told()", tell(x, "line 0 is 0 #"), 1);
+        due("its line has a number now", x.record(), NONE);
+        due("told()", tell(x, "line 0 is 0;word 31 is bb"), 2);
+        due("another name", x.record(), NONE);
+        due("told()", tell(x, "line 0 is 0 0;word 31 is b;word 0 is bb"), 3);
+        due("the first name again, and no step of the other", x.record(), 1);
+        due("told()", tell(x, "word 31 is c;word 1 is c;line 1 is 1"), 3);
+        due("a name told anew needs no more than its own steps", x.record(), 2);
+        due("told()", tell(x, "line 1 is 1 9"), 1);
+        due("its line cannot be spoken now", x.record(), NONE);
     }
 
     private static void spots() {

@@ -23,10 +23,13 @@ public final class BoundsOfPiecesTest extends Check {
         cutsAtBeginAndEnd();
         costOfACut();
         differences();
+        allTones();
         bitsOfOneVoice();
         ways();
+        waysThatBeginApart();
         waysThatWrap();
         firstByPieceFromAndFewest();
+        firstByTones();
         saidOfOneToSixteen();
         saidBitsBehind();
         saidWhat();
@@ -445,6 +448,22 @@ public final class BoundsOfPiecesTest extends Check {
         due("the same", said(y, "aaaaaaaaaaaaaaaa", 0), 0);
     }
 
+    private static void allTones() {
+        sentence("with a TONE at its begin and at its end (0 .. 99 each)");
+        OneVoice x = new OneVoice();
+        for (int i = 0; i < 12; i++) {
+            piece(x, "bacdefgh", 8 * i, 8 * i + 7, 0);
+        }
+        piece(x, "bacd", 96, 99, 0);
+        due("every tone there is, in one voice", said(x, "b", 1), 13);
+        due("twice the same", said(x, "bb", 1), 13);
+        due("the lowest", bit(x, "b", 0), 1);
+        due("the highest", x.of(12, 3, 1), 99);
+        due("the whole with the highest", said(x, "bacd", 0), 0);
+        due("a cut and 3 back are less than 99 to 88", said(x, "bacdbacdefgh", 0), 5 + 3);
+        due("the highest, then the nearest", said(x, "db", 0), 5 + 3 + 5);
+    }
+
     private static void bitsOfOneVoice() {
         sentence("A row of SOUNDS is SAID by a row of BITS of one VOICE");
         OneVoice x = new OneVoice();
@@ -477,6 +496,28 @@ public final class BoundsOfPiecesTest extends Check {
         due("as far below as above", said(y, "ab", 1), 2);
         due("one more is too far", said(y, "ab", 0), 10);
         due("back from each", said(y, "aba", 1), 2);
+    }
+
+    private static void waysThatBeginApart() {
+        sentence("WAYS: by how many rows of BITS so");
+        OneVoice x = new OneVoice();
+        piece(x, "a", 10, 10, 0);
+        piece(x, "a", 20, 20, 0);
+        piece(x, "a", 20, 20, 0);
+        piece(x, "a", 90, 90, 0);
+        due("all that begin without a jar", said(x, "a", 1), 4);
+        due("each goes on with its own tone", said(x, "aa", 1), 1 + 4 + 1);
+        piece(x, "ab", 24, 24, 0);
+        due("one with a cut is worse", said(x, "a", 1), 4);
+        due("there is one way", said(x, "ab", 1), 1);
+        due("from the nearest", said(x, "aab", 0), 4);
+        due("two are so near", said(x, "aab", 1), 2);
+        OneVoice y = new OneVoice();
+        for (int i = 0; i < 16; i++) {
+            piece(y, "a", i % 2, i % 2, 0);
+        }
+        due("8 to the 9th of each tone", said(y, "aaaaaaaaa", 1), 2 * 134217728);
+        due("8 to the 10th of each, together above", said(y, "aaaaaaaaaa", 1), 2 * 1073741824L % MODULUS);
     }
 
     private static void waysThatWrap() {
@@ -533,6 +574,36 @@ public final class BoundsOfPiecesTest extends Check {
         due("piece 1 by itself", bit(z, "a", 0), 256 + 1);
         due("piece 2 for the tone", bit(z, "aaab", 0), 512 + 1);
         due("and piece 0 behind it", bit(z, "aaab", 1), 3);
+    }
+
+    private static void firstByTones() {
+        sentence("the FIRST of these by PIECES and places");
+        OneVoice x = new OneVoice();
+        tell(x, "cut 0");
+        piece(x, "cab", 10, 30, 0);
+        piece(x, "d", 11, 11, 0);
+        piece(x, "d", 19, 19, 0);
+        piece(x, "eff", 80, 60, 0);
+        piece(x, "d", 79, 79, 0);
+        firstIs(x, "cd", 1, 1, 256 + 1);
+        firstIs(x, "ad", 1, 16 + 1, 512 + 1);
+        firstIs(x, "bd", 11, 32 + 1, 512 + 1);
+        firstIs(x, "cabd", 11, 3, 512 + 1);
+        firstIs(x, "ed", 1, 768 + 1, 1024 + 1);
+        firstIs(x, "effd", 9, 768 + 2, 768 + 16 + 1, 1024 + 1);
+        OneVoice y = new OneVoice();
+        piece(y, "baaaaaab", 7, 7, 0);
+        firstIs(y, "baaaaaabb", 5, 8, 1);
+        firstIs(y, "bbaaaaaab", 5, 1, 8);
+    }
+
+    private static void firstIs(OneVoice x, String row, int jar, int... bits) {
+        due("jar of " + row, said(x, row, 0), jar);
+        due("bits of " + row, bit(x, row, -1), bits.length);
+        for (int i = 0; i < bits.length; i++) {
+            due("bit " + i + " of " + row, bit(x, row, i), bits[i]);
+        }
+        due("behind the bits of " + row, bit(x, row, bits.length), NONE);
     }
 
     private static void saidOfOneToSixteen() {
@@ -597,6 +668,10 @@ public final class BoundsOfPiecesTest extends Check {
             due("the first bit of " + row, bit(x, row, 0), NONE);
         }
         due("a jar of 0 can be", said(x, "ab", 0), 0);
+        due("in one way", said(x, "ab", 1), 1);
+        due("another still cannot", said(x, "c", 1), 0);
+        due("nor can it by a voice without pieces", x.said(3, 0, 1, 1), 0);
+        due("which has no bits", x.bit(3, 0, 1, 0), NONE);
     }
 
     private static void bitNumbers() {

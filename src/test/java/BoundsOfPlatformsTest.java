@@ -30,6 +30,7 @@ public final class BoundsOfPlatformsTest extends Check {
         muteTakesNoTime();
         textsToldAnew();
         hearEachOther();
+        everyPairHears();
         heardWhat();
         heardCalls();
         speaks();
@@ -259,6 +260,11 @@ public final class BoundsOfPlatformsTest extends Check {
 
     private static void staleWaitsAlone() {
         sentence("A CALL that is WAITING and whose STALE is this TICK or ahead");
+        OneVoice first = platforms("");
+        first.call(0, 1, 0, 2, 3, false);
+        first.call(0, 0, 0, 0, 9, false);
+        first.run(4);
+        due("the first call too", first.heard(0, 0), STALE);
         OneVoice x = platforms("");
         x.call(0, 0, 0, 0, 1, false);
         x.call(1, 0, 0, 0, 3, true);
@@ -461,6 +467,15 @@ public final class BoundsOfPlatformsTest extends Check {
         state(x, 3, WAITING);
         x.run(1);
         began(x, 3, 7);
+        OneVoice z = platforms(";near 0 1;near 1 2");
+        z.call(1, 1, 0, 1, 90, true);
+        z.call(0, 0, 0, 0, 90, true);
+        z.call(2, 1, 0, 1, 90, false);
+        z.run(6);
+        due("it waits for the first call too", z.heard(2, 0), WAITING);
+        z.run(2);
+        began(z, 0, 6);
+        began(z, 2, 7);
         OneVoice y = platforms(";near 0 1");
         y.call(0, 0, 0, 0, 90, true);
         y.call(0, 1, 0, 1, 2, true);
@@ -677,6 +692,33 @@ public final class BoundsOfPlatformsTest extends Check {
         y.run(5);
         due("near too late: both end", y.heard(0, 0), DONE);
         due("near too late: both end", y.heard(1, 0), DONE);
+    }
+
+    private static void everyPairHears() {
+        sentence("A, B unlike PLATFORMS: they HEAR each other, or not");
+        for (int a = 0; a < 6; a++) {
+            for (int b = 0; b < 6; b++) {
+                if (a != b) {
+                    OneVoice x = platforms(";near " + a + " " + b);
+                    pairSpeaks(x, a, b, NONE);
+                    pairSpeaks(x, b, a, NONE);
+                    due("told()", tell(x, "far " + a + " " + b), 1);
+                    pairSpeaks(x, a, b, x.count(5) + 1);
+                    pairSpeaks(x, b, a, x.count(5) + 1);
+                }
+            }
+        }
+    }
+
+    /** A call at the one and one at the other: whether the second is spoken with the first. */
+    private static void pairSpeaks(OneVoice x, int one, int other, int want) {
+        int now = x.count(6);
+        int first = x.call(one, 2, 0, now, 3000, false);
+        x.call(other, 2, 0, now, 3000, false);
+        x.run(1);
+        due("first at " + one + " beside " + other, x.speaks(one), first);
+        due("then at " + other + " beside " + one, x.speaks(other), want);
+        x.run(9);
     }
 
     private static void heardWhat() {

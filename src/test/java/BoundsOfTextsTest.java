@@ -338,6 +338,17 @@ public final class BoundsOfTextsTest extends Check {
         faultAt("nearer 0 1", 0);
         faultAt("fa 0 1", 0);
         faultAt("lines 0 is 1", 0);
+        String[] kinds = {"word 0 is a", "line 0 is 1", "cut 5", "near 0 1", "far 0 1"};
+        for (String kind : kinds) {
+            faultAt(kind, NONE);
+            for (int i = 0; kind.charAt(i) != ' '; i++) {
+                char other = kind.charAt(i) == 'b' ? 'd' : 'b';
+                faultAt(kind.substring(0, i) + other + kind.substring(i + 1), 0);
+            }
+        }
+        faultAt("word 0 as a", 7);
+        faultAt("word 0 it a", 7);
+        faultAt("line 0 as 1", 7);
     }
 
     private static void oneOrTwoDigits() {
