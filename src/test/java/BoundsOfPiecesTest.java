@@ -1,3 +1,5 @@
+import java.util.Arrays;
+
 /** Promises 1 to 7 at their bounds: each sentence of the document that names one has a test of its own. */
 public final class BoundsOfPiecesTest extends Check {
     private static final int MODULUS = 1000000007;
@@ -595,6 +597,19 @@ public final class BoundsOfPiecesTest extends Check {
         piece(y, "baaaaaab", 7, 7, 0);
         firstIs(y, "baaaaaabb", 5, 8, 1);
         firstIs(y, "bbaaaaaab", 5, 1, 8);
+        piece(y, "c", 7, 7, 0);
+        firstIs(y, "cc", 0, 256 + 1, 256 + 1);
+        OneVoice z = new OneVoice();
+        piece(z, "baaaaaab", 0, 99, 0);
+        piece(z, "baaaaaab", 0, 0, 0);
+        piece(z, "b", 0, 0, 0);
+        firstIs(z, "baaaaaabb", 0, 256 + 8, 512 + 1);
+        OneVoice w = new OneVoice();
+        piece(w, "aaaaaaab", 0, 99, 0);
+        piece(w, "a", 0, 0, 0);
+        int[] singles = new int[16];
+        Arrays.fill(singles, 256 + 1);
+        firstIs(w, "aaaaaaaaaaaaaaaa", 0, singles);
     }
 
     private static void firstIs(OneVoice x, String row, int jar, int... bits) {

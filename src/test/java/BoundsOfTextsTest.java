@@ -16,6 +16,7 @@ public final class BoundsOfTextsTest extends Check {
         platformsOfTexts();
         unlikePlatforms();
         costs();
+        withoutPoints();
         smallLetters();
         oneOrTwoDigits();
         blanks();
@@ -314,6 +315,18 @@ public final class BoundsOfTextsTest extends Check {
         due("count(4)", x.count(4), 99);
         due("told()", tell(x, "cut 09"), 1);
         due("count(4)", x.count(4), 9);
+    }
+
+    private static void withoutPoints() {
+        sentence("(As written here, without points;");
+        faultAt("word 0 is a.", 11);
+        faultAt("line 0 is 1.", 11);
+        faultAt("line 0 is # .", 12);
+        faultAt("cut 5.", 5);
+        faultAt("near 0 1.", 8);
+        faultAt("far 0 1.", 7);
+        faultAt("cut 5.;cut 5", 5);
+        faultAt(".", 0);
     }
 
     private static void smallLetters() {

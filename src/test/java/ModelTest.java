@@ -11,7 +11,7 @@ import java.util.regex.Pattern;
 
 /** Many runs of calls, on the class and on a plain reading of the document beside it; each answer is compared. */
 public final class ModelTest extends Check {
-    private static final int RUNS = 1500;
+    private static final int RUNS = 1000;
     private static int wrong = 0;
 
     private final Random random;
